@@ -8,15 +8,35 @@ final class Due {
 
   private static int checked = 0;
   private static int wrong = 0;
+  private static int sentences = 0;
+  private static int checkedBefore = 0;
+  private static String sentence = "";
 
   private Due() {}
+
+  /** What is compared from here on belongs to this sentence of the document. */
+  static void sentence(String text) {
+    endSentence();
+    sentence = text;
+    checkedBefore = checked;
+    sentences++;
+  }
+
+  /** A sentence for which nothing was compared would look kept without being tested. */
+  private static void endSentence() {
+    if (sentences > 0 && checked == checkedBefore) {
+      wrong++;
+      System.out.println("[" + sentence + "] has no answer that was checked");
+    }
+  }
 
   static void is(String call, Object want, Call made) {
     Object got = answerOf(made);
     checked++;
     if (!Objects.equals(want, got)) {
       wrong++;
-      System.out.println(call + " answered " + got + ", due is " + want);
+      String where = sentence.isEmpty() ? "" : "[" + sentence + "] ";
+      System.out.println(where + call + " answered " + got + ", due is " + want);
     }
   }
 
@@ -38,7 +58,9 @@ final class Due {
   }
 
   static void end(String name) {
-    System.out.println(name + ": " + checked + " answers checked, " + wrong + " wrong");
+    endSentence();
+    String of = sentences == 0 ? "" : " of " + sentences + " sentences";
+    System.out.println(name + ": " + checked + " answers" + of + " checked, " + wrong + " wrong");
     if (wrong != 0) {
       System.exit(1);
     }

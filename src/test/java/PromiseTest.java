@@ -1,8 +1,5 @@
 /** Each promise of the document by itself: ordinary inputs, the named edges, and wrong inputs. */
 public final class PromiseTest {
-  private static final Class<IllegalStateException> STATE = IllegalStateException.class;
-  private static final Class<IllegalArgumentException> ARGUMENT = IllegalArgumentException.class;
-  private static final Class<IndexOutOfBoundsException> INDEX = IndexOutOfBoundsException.class;
   private static final int[] OUTSIDE = {-1, Integer.MIN_VALUE, Integer.MAX_VALUE};
 
   public static void main(String[] args) {
@@ -35,31 +32,14 @@ public final class PromiseTest {
     Due.end("PromiseTest");
   }
 
-  private static CairnShells cairn(int layers) {
-    CairnShells x = new CairnShells();
-    for (int layer = 0; layer < layers; layer++) {
-      x.find();
-    }
-    return x;
-  }
-
-  /** Layer 3 above 2 above 1 above 0. */
-  private static CairnShells pile(int layers) {
-    CairnShells x = cairn(layers);
-    for (int layer = 1; layer < layers; layer++) {
-      x.above(layer, layer - 1);
-    }
-    return x;
-  }
-
   private static void promise1NewObject() {
     CairnShells x = new CairnShells();
     for (int what = 0; what <= 6; what++) {
       int counted = what;
       Due.is("new: count(" + what + ")", 0, () -> x.count(counted));
     }
-    Due.refusal("new: told(0, 0)", INDEX, () -> x.told(0, 0));
-    CairnShells other = cairn(3);
+    Due.refusal("new: told(0, 0)", Edges.INDEX, () -> x.told(0, 0));
+    CairnShells other = Edges.cairn(3);
     Due.is("new: beside another one", 0, () -> x.count(0));
     Due.is("new: another one", 3, () -> other.count(0));
   }
@@ -69,10 +49,10 @@ public final class PromiseTest {
     for (int layer = 0; layer < 14; layer++) {
       Due.is("find()", layer, x::find);
     }
-    Due.refusal("find() with 14", STATE, x::find);
-    Due.refusal("find() with 14 again", STATE, x::find);
+    Due.refusal("find() with 14", Edges.STATE, x::find);
+    Due.refusal("find() with 14 again", Edges.STATE, x::find);
     Due.is("find: count(0)", 14, () -> x.count(0));
-    CairnShells y = cairn(1);
+    CairnShells y = Edges.cairn(1);
     y.sift(0, 1, 5);
     y.hearth(0, 10, 20);
     y.find();
@@ -85,7 +65,7 @@ public final class PromiseTest {
   }
 
   private static void promise3Above() {
-    CairnShells x = cairn(5);
+    CairnShells x = Edges.cairn(5);
     Due.is("above(1, 0)", 1, () -> x.above(1, 0));
     Due.is("above(2, 1)", 2, () -> x.above(2, 1));
     Due.is("above(2, 1) again", 2, () -> x.above(2, 1));
@@ -93,32 +73,32 @@ public final class PromiseTest {
     Due.is("above(4, 3)", 1, () -> x.above(4, 3));
     Due.is("above(3, 2)", 3, () -> x.above(3, 2));
     Due.is("above: what lies above rises too", 4, () -> x.told(4, 4));
-    Due.refusal("above(0, 0)", STATE, () -> x.above(0, 0));
-    Due.refusal("above(0, 1)", STATE, () -> x.above(0, 1));
-    Due.refusal("above(0, 4)", STATE, () -> x.above(0, 4));
-    Due.refusal("above(5, 5) is no layer", INDEX, () -> x.above(5, 5));
+    Due.refusal("above(0, 0)", Edges.STATE, () -> x.above(0, 0));
+    Due.refusal("above(0, 1)", Edges.STATE, () -> x.above(0, 1));
+    Due.refusal("above(0, 4)", Edges.STATE, () -> x.above(0, 4));
+    Due.refusal("above(5, 5) is no layer", Edges.INDEX, () -> x.above(5, 5));
     for (int outside : OUTSIDE) {
-      Due.refusal("above(" + outside + ", 0)", INDEX, () -> x.above(outside, 0));
-      Due.refusal("above(0, " + outside + ")", INDEX, () -> x.above(0, outside));
+      Due.refusal("above(" + outside + ", 0)", Edges.INDEX, () -> x.above(outside, 0));
+      Due.refusal("above(0, " + outside + ")", Edges.INDEX, () -> x.above(0, outside));
     }
   }
 
   private static void promise3AboveBySame() {
-    CairnShells x = cairn(6);
+    CairnShells x = Edges.cairn(6);
     x.same(0, 1);
     x.same(2, 3);
-    Due.refusal("above(0, 1) which are the same", STATE, () -> x.above(0, 1));
+    Due.refusal("above(0, 1) which are the same", Edges.STATE, () -> x.above(0, 1));
     Due.is("above(1, 2)", 2, () -> x.above(1, 2));
     Due.is("above: later(0, 3)", true, () -> x.later(0, 3));
-    Due.refusal("above(3, 0)", STATE, () -> x.above(3, 0));
+    Due.refusal("above(3, 0)", Edges.STATE, () -> x.above(3, 0));
     Due.is("above(4, 0)", 4, () -> x.above(4, 0));
     Due.is("above(3, 5)", 1, () -> x.above(3, 5));
     Due.is("above: told(4, 4)", 5, () -> x.told(4, 4));
-    Due.refusal("above(5, 4)", STATE, () -> x.above(5, 4));
+    Due.refusal("above(5, 4)", Edges.STATE, () -> x.above(5, 4));
   }
 
   private static void promise4Same() {
-    CairnShells x = cairn(5);
+    CairnShells x = Edges.cairn(5);
     Due.is("same(2, 2)", 1, () -> x.same(2, 2));
     Due.is("same(0, 1)", 2, () -> x.same(0, 1));
     Due.is("same(1, 0) again", 2, () -> x.same(1, 0));
@@ -130,18 +110,18 @@ public final class PromiseTest {
     }
     Due.is("same: told(4, 6)", 1, () -> x.told(4, 6));
     x.above(4, 2);
-    Due.refusal("same(4, 0)", STATE, () -> x.same(4, 0));
-    Due.refusal("same(1, 4)", STATE, () -> x.same(1, 4));
-    Due.refusal("same(5, 5) is no layer", INDEX, () -> x.same(5, 5));
+    Due.refusal("same(4, 0)", Edges.STATE, () -> x.same(4, 0));
+    Due.refusal("same(1, 4)", Edges.STATE, () -> x.same(1, 4));
+    Due.refusal("same(5, 5) is no layer", Edges.INDEX, () -> x.same(5, 5));
     for (int outside : OUTSIDE) {
-      Due.refusal("same(" + outside + ", 0)", INDEX, () -> x.same(outside, 0));
-      Due.refusal("same(0, " + outside + ")", INDEX, () -> x.same(0, outside));
+      Due.refusal("same(" + outside + ", 0)", Edges.INDEX, () -> x.same(outside, 0));
+      Due.refusal("same(0, " + outside + ")", Edges.INDEX, () -> x.same(0, outside));
     }
   }
 
   /** Two piles, 2 over 1 over 0 and 5 over 4 over 3, whose middle layers turn out to be the same. */
   private static void promise4SameBetweenOthers() {
-    CairnShells x = cairn(6);
+    CairnShells x = Edges.cairn(6);
     x.above(1, 0);
     x.above(2, 1);
     x.above(4, 3);
@@ -154,14 +134,14 @@ public final class PromiseTest {
     Due.is("same: later(1, 4)", false, () -> x.later(1, 4));
     Due.is("same: later(2, 5)", false, () -> x.later(2, 5));
     Due.is("same: count(4)", 12, () -> x.count(4));
-    Due.refusal("same(0, 5) by way of 1 and 4", STATE, () -> x.same(0, 5));
+    Due.refusal("same(0, 5) by way of 1 and 4", Edges.STATE, () -> x.same(0, 5));
     Due.is("same(2, 5)", 2, () -> x.same(2, 5));
     Due.is("same(0, 3)", 2, () -> x.same(0, 3));
     Due.is("same: count(5)", 3, () -> x.count(5));
   }
 
   private static void promise5Sift() {
-    CairnShells x = cairn(2);
+    CairnShells x = Edges.cairn(2);
     for (int kind = 0; kind < 4; kind++) {
       int each = kind;
       Due.is("sift(0, " + kind + ", 99)", 0, () -> x.sift(0, each, 99));
@@ -173,19 +153,19 @@ public final class PromiseTest {
     x.same(0, 1);
     Due.is("sift(1, 2, 4) tells its own alone", 0, () -> x.sift(1, 2, 4));
     Due.is("sift(0, 2, 9) tells its own alone", 9, () -> x.sift(0, 2, 9));
-    Due.refusal("sift(0, 0, 100)", ARGUMENT, () -> x.sift(0, 0, 100));
-    Due.refusal("sift(0, 4, 0)", INDEX, () -> x.sift(0, 4, 0));
-    Due.refusal("sift(0, 4, 100)", INDEX, () -> x.sift(0, 4, 100));
-    Due.refusal("sift(2, 0, 100)", INDEX, () -> x.sift(2, 0, 100));
+    Due.refusal("sift(0, 0, 100)", Edges.ARGUMENT, () -> x.sift(0, 0, 100));
+    Due.refusal("sift(0, 4, 0)", Edges.INDEX, () -> x.sift(0, 4, 0));
+    Due.refusal("sift(0, 4, 100)", Edges.INDEX, () -> x.sift(0, 4, 100));
+    Due.refusal("sift(2, 0, 100)", Edges.INDEX, () -> x.sift(2, 0, 100));
     for (int outside : OUTSIDE) {
-      Due.refusal("sift(" + outside + ", 0, 0)", INDEX, () -> x.sift(outside, 0, 0));
-      Due.refusal("sift(0, " + outside + ", 0)", INDEX, () -> x.sift(0, outside, 0));
-      Due.refusal("sift(0, 0, " + outside + ")", ARGUMENT, () -> x.sift(0, 0, outside));
+      Due.refusal("sift(" + outside + ", 0, 0)", Edges.INDEX, () -> x.sift(outside, 0, 0));
+      Due.refusal("sift(0, " + outside + ", 0)", Edges.INDEX, () -> x.sift(0, outside, 0));
+      Due.refusal("sift(0, 0, " + outside + ")", Edges.ARGUMENT, () -> x.sift(0, 0, outside));
     }
   }
 
   private static void promise6Hearth() {
-    CairnShells x = pile(3);
+    CairnShells x = Edges.pile(3);
     Due.is("hearth(1, 500, 600)", 500, () -> x.hearth(1, 500, 600));
     Due.is("hearth(2, 400, 700) tells the layer's year", 500, () -> x.hearth(2, 400, 700));
     Due.is("hearth(0, 100, 650)", 100, () -> x.hearth(0, 100, 650));
@@ -196,41 +176,41 @@ public final class PromiseTest {
     Due.is("hearth(0, 0, 9999)", 0, () -> x.hearth(0, 0, 9999));
     Due.is("hearth(0, 9999, 9999)", 9999, () -> x.hearth(0, 9999, 9999));
     Due.is("hearth(0, 0, 0)", 0, () -> x.hearth(0, 0, 0));
-    Due.refusal("hearth(0, -1, 5)", ARGUMENT, () -> x.hearth(0, -1, 5));
-    Due.refusal("hearth(0, 5, 10000)", ARGUMENT, () -> x.hearth(0, 5, 10000));
-    Due.refusal("hearth(0, 5, 4)", ARGUMENT, () -> x.hearth(0, 5, 4));
-    Due.refusal("hearth(0, 0, -1)", ARGUMENT, () -> x.hearth(0, 0, -1));
-    Due.refusal("hearth(3, 5, 4)", INDEX, () -> x.hearth(3, 5, 4));
+    Due.refusal("hearth(0, -1, 5)", Edges.ARGUMENT, () -> x.hearth(0, -1, 5));
+    Due.refusal("hearth(0, 5, 10000)", Edges.ARGUMENT, () -> x.hearth(0, 5, 10000));
+    Due.refusal("hearth(0, 5, 4)", Edges.ARGUMENT, () -> x.hearth(0, 5, 4));
+    Due.refusal("hearth(0, 0, -1)", Edges.ARGUMENT, () -> x.hearth(0, 0, -1));
+    Due.refusal("hearth(3, 5, 4)", Edges.INDEX, () -> x.hearth(3, 5, 4));
     for (int outside : OUTSIDE) {
-      Due.refusal("hearth(" + outside + ", 0, 0)", INDEX, () -> x.hearth(outside, 0, 0));
-      Due.refusal("hearth(0, " + outside + ", 0)", ARGUMENT, () -> x.hearth(0, outside, 0));
-      Due.refusal("hearth(0, 0, " + outside + ")", ARGUMENT, () -> x.hearth(0, 0, outside));
+      Due.refusal("hearth(" + outside + ", 0, 0)", Edges.INDEX, () -> x.hearth(outside, 0, 0));
+      Due.refusal("hearth(0, " + outside + ", 0)", Edges.ARGUMENT, () -> x.hearth(0, outside, 0));
+      Due.refusal("hearth(0, 0, " + outside + ")", Edges.ARGUMENT, () -> x.hearth(0, 0, outside));
     }
   }
 
   private static void promise7Clear() {
-    CairnShells x = pile(2);
-    Due.refusal("clear(0) without one", STATE, () -> x.clear(0));
+    CairnShells x = Edges.pile(2);
+    Due.refusal("clear(0) without one", Edges.STATE, () -> x.clear(0));
     x.hearth(0, 800, 900);
     x.hearth(1, 700, 950);
     Due.is("clear(1) tells its hearth's year", 700, () -> x.clear(1));
     Due.is("clear: told(0, 1)", 900, () -> x.told(0, 1));
     Due.is("clear: told(1, 0)", 800, () -> x.told(1, 0));
-    Due.refusal("clear(1) again", STATE, () -> x.clear(1));
+    Due.refusal("clear(1) again", Edges.STATE, () -> x.clear(1));
     Due.is("clear(0)", 800, () -> x.clear(0));
     Due.is("clear: told(1, 0) without any", 0, () -> x.told(1, 0));
     Due.is("clear: told(0, 1) without any", 9999, () -> x.told(0, 1));
     Due.is("clear: count(3)", 0, () -> x.count(3));
     x.hearth(0, 0, 9999);
     Due.is("clear(0) of all years", 0, () -> x.clear(0));
-    Due.refusal("clear(2)", INDEX, () -> x.clear(2));
+    Due.refusal("clear(2)", Edges.INDEX, () -> x.clear(2));
     for (int outside : OUTSIDE) {
-      Due.refusal("clear(" + outside + ")", INDEX, () -> x.clear(outside));
+      Due.refusal("clear(" + outside + ")", Edges.INDEX, () -> x.clear(outside));
     }
   }
 
   private static void promise8Later() {
-    CairnShells x = pile(3);
+    CairnShells x = Edges.pile(3);
     x.find();
     x.find();
     x.same(1, 3);
@@ -243,16 +223,16 @@ public final class PromiseTest {
     Due.is("later(1, 1)", false, () -> x.later(1, 1));
     Due.is("later(4, 0)", false, () -> x.later(4, 0));
     Due.is("later(0, 4)", false, () -> x.later(0, 4));
-    Due.refusal("later(5, 0)", INDEX, () -> x.later(5, 0));
-    Due.refusal("later(0, 5)", INDEX, () -> x.later(0, 5));
+    Due.refusal("later(5, 0)", Edges.INDEX, () -> x.later(5, 0));
+    Due.refusal("later(0, 5)", Edges.INDEX, () -> x.later(0, 5));
     for (int outside : OUTSIDE) {
-      Due.refusal("later(" + outside + ", 0)", INDEX, () -> x.later(outside, 0));
-      Due.refusal("later(0, " + outside + ")", INDEX, () -> x.later(0, outside));
+      Due.refusal("later(" + outside + ", 0)", Edges.INDEX, () -> x.later(outside, 0));
+      Due.refusal("later(0, " + outside + ")", Edges.INDEX, () -> x.later(0, outside));
     }
   }
 
   private static void promise9ToldYears() {
-    CairnShells x = pile(3);
+    CairnShells x = Edges.pile(3);
     x.find();
     x.same(1, 3);
     Due.is("told(0, 0) without any", 0, () -> x.told(0, 0));
@@ -266,11 +246,11 @@ public final class PromiseTest {
     dueYears(x, new int[][] {{1000, 1200, 0}, {1200, 1200, 0}, {1200, 1200, 0}, {1200, 1200, 0}});
     x.hearth(2, 1100, 1199);
     dueYears(x, new int[][] {{1000, 1199, 0}, {1200, 1199, 1}, {1200, 1199, 1}, {1200, 1199, 1}});
-    Due.refusal("told(4, 0)", INDEX, () -> x.told(4, 0));
-    Due.refusal("told(0, 9)", INDEX, () -> x.told(0, 9));
+    Due.refusal("told(4, 0)", Edges.INDEX, () -> x.told(4, 0));
+    Due.refusal("told(0, 9)", Edges.INDEX, () -> x.told(0, 9));
     for (int outside : OUTSIDE) {
-      Due.refusal("told(" + outside + ", 0)", INDEX, () -> x.told(outside, 0));
-      Due.refusal("told(0, " + outside + ")", INDEX, () -> x.told(0, outside));
+      Due.refusal("told(" + outside + ", 0)", Edges.INDEX, () -> x.told(outside, 0));
+      Due.refusal("told(0, " + outside + ")", Edges.INDEX, () -> x.told(0, outside));
     }
   }
 
@@ -285,7 +265,7 @@ public final class PromiseTest {
 
   /** 3 above 1 above 0, 3 above 2, 4 the same as 2, 5 by itself. */
   private static void promise9ToldPlaces() {
-    CairnShells x = cairn(6);
+    CairnShells x = Edges.cairn(6);
     x.above(1, 0);
     x.above(3, 1);
     x.above(3, 2);
@@ -323,7 +303,7 @@ public final class PromiseTest {
     // Summer 4 and autumn 4.
     dueSeason(2, 0, 0, 2, 1);
     dueSeason(3, 0, 0, 99, 99);
-    CairnShells x = cairn(3);
+    CairnShells x = Edges.cairn(3);
     x.sift(0, 2, 1);
     x.sift(1, 2, 1);
     x.sift(1, 1, 2);
@@ -337,7 +317,7 @@ public final class PromiseTest {
   }
 
   private static void dueSeason(int due, int mussels, int cockles, int bones, int teeth) {
-    CairnShells x = cairn(1);
+    CairnShells x = Edges.cairn(1);
     x.sift(0, 0, mussels);
     x.sift(0, 1, cockles);
     x.sift(0, 2, bones);
@@ -347,7 +327,7 @@ public final class PromiseTest {
   }
 
   private static void promise9ToldOwnHearth() {
-    CairnShells x = pile(2);
+    CairnShells x = Edges.pile(2);
     x.find();
     x.same(1, 2);
     x.hearth(1, 0, 9999);
@@ -359,7 +339,7 @@ public final class PromiseTest {
   }
 
   private static void promise10Finds() {
-    CairnShells x = cairn(4);
+    CairnShells x = Edges.cairn(4);
     for (int layer = 0; layer < 4; layer++) {
       for (int kind = 0; kind < 4; kind++) {
         x.sift(layer, kind, 10 * layer + kind);
@@ -373,13 +353,13 @@ public final class PromiseTest {
       Due.is("finds(0, " + kind + ")", 50 + 3 * kind, () -> x.finds(0, each));
       Due.is("finds(3, " + kind + ")", 50 + 3 * kind, () -> x.finds(3, each));
     }
-    Due.refusal("finds(4, 0)", INDEX, () -> x.finds(4, 0));
-    Due.refusal("finds(0, 4)", INDEX, () -> x.finds(0, 4));
+    Due.refusal("finds(4, 0)", Edges.INDEX, () -> x.finds(4, 0));
+    Due.refusal("finds(0, 4)", Edges.INDEX, () -> x.finds(0, 4));
     for (int outside : OUTSIDE) {
-      Due.refusal("finds(" + outside + ", 0)", INDEX, () -> x.finds(outside, 0));
-      Due.refusal("finds(0, " + outside + ")", INDEX, () -> x.finds(0, outside));
+      Due.refusal("finds(" + outside + ", 0)", Edges.INDEX, () -> x.finds(outside, 0));
+      Due.refusal("finds(0, " + outside + ")", Edges.INDEX, () -> x.finds(0, outside));
     }
-    CairnShells all = cairn(14);
+    CairnShells all = Edges.cairn(14);
     for (int layer = 0; layer < 14; layer++) {
       all.sift(layer, 3, 99);
       all.same(0, layer);
@@ -388,7 +368,7 @@ public final class PromiseTest {
   }
 
   private static void promise11Order() {
-    CairnShells x = cairn(5);
+    CairnShells x = Edges.cairn(5);
     dueOrder(x, 0, 1, 2, 3, 4);
     x.above(0, 3);
     dueOrder(x, 1, 2, 3, 0, 4);
@@ -400,12 +380,12 @@ public final class PromiseTest {
     dueOrder(x, 4, 1, 3, 0, 2);
     x.find();
     dueOrder(x, 4, 1, 3, 0, 2, 5);
-    Due.refusal("order(6)", INDEX, () -> x.order(6));
-    Due.refusal("order(14)", INDEX, () -> x.order(14));
+    Due.refusal("order(6)", Edges.INDEX, () -> x.order(6));
+    Due.refusal("order(14)", Edges.INDEX, () -> x.order(14));
     for (int outside : OUTSIDE) {
-      Due.refusal("order(" + outside + ")", INDEX, () -> x.order(outside));
+      Due.refusal("order(" + outside + ")", Edges.INDEX, () -> x.order(outside));
     }
-    Due.refusal("order(0) without layers", INDEX, () -> new CairnShells().order(0));
+    Due.refusal("order(0) without layers", Edges.INDEX, () -> new CairnShells().order(0));
   }
 
   private static void dueOrder(CairnShells x, int... due) {
@@ -416,7 +396,7 @@ public final class PromiseTest {
   }
 
   private static void promise12Between() {
-    CairnShells x = pile(4);
+    CairnShells x = Edges.pile(4);
     x.find();
     x.find();
     x.same(4, 2);
@@ -430,16 +410,16 @@ public final class PromiseTest {
     x.above(5, 0);
     Due.is("between(3, 0) with 5 beside", 3, () -> x.between(3, 0));
     Due.is("between(3, 5)", -1, () -> x.between(3, 5));
-    Due.refusal("between(6, 0)", INDEX, () -> x.between(6, 0));
-    Due.refusal("between(0, 6)", INDEX, () -> x.between(0, 6));
+    Due.refusal("between(6, 0)", Edges.INDEX, () -> x.between(6, 0));
+    Due.refusal("between(0, 6)", Edges.INDEX, () -> x.between(0, 6));
     for (int outside : OUTSIDE) {
-      Due.refusal("between(" + outside + ", 0)", INDEX, () -> x.between(outside, 0));
-      Due.refusal("between(0, " + outside + ")", INDEX, () -> x.between(0, outside));
+      Due.refusal("between(" + outside + ", 0)", Edges.INDEX, () -> x.between(outside, 0));
+      Due.refusal("between(0, " + outside + ")", Edges.INDEX, () -> x.between(0, outside));
     }
   }
 
   private static void promise13Count() {
-    CairnShells x = cairn(5);
+    CairnShells x = Edges.cairn(5);
     dueCounts(x, 5, 1, 0, 0, 0, 5, 0);
     x.above(2, 0);
     x.above(3, 2);
@@ -454,9 +434,9 @@ public final class PromiseTest {
     x.sift(1, 0, 4);
     x.sift(4, 3, 90);
     dueCounts(x, 5, 3, 0, 2, 5, 4, 97);
-    Due.refusal("count(7)", INDEX, () -> x.count(7));
+    Due.refusal("count(7)", Edges.INDEX, () -> x.count(7));
     for (int outside : OUTSIDE) {
-      Due.refusal("count(" + outside + ")", INDEX, () -> x.count(outside));
+      Due.refusal("count(" + outside + ")", Edges.INDEX, () -> x.count(outside));
     }
   }
 
@@ -468,7 +448,7 @@ public final class PromiseTest {
   }
 
   private static void promise14Blame() {
-    CairnShells x = pile(4);
+    CairnShells x = Edges.pile(4);
     Due.is("blame() without hearths", -1, x::blame);
     x.hearth(0, 100, 200);
     x.hearth(1, 110, 210);
@@ -489,7 +469,7 @@ public final class PromiseTest {
 
   /** 1 above 0 and 3 above 2 contradict each other alike: each of the four leaves two. */
   private static int blameOfTwoPairs() {
-    CairnShells x = cairn(4);
+    CairnShells x = Edges.cairn(4);
     x.above(1, 0);
     x.above(3, 2);
     x.hearth(0, 500, 600);
@@ -501,7 +481,7 @@ public final class PromiseTest {
 
   /** Three that are the same: whichever goes, the others still contradict each other. */
   private static int blameOfNoneAlone() {
-    CairnShells x = cairn(3);
+    CairnShells x = Edges.cairn(3);
     for (int layer = 0; layer < 3; layer++) {
       x.same(0, layer);
       x.hearth(layer, 100 * layer, 100 * layer + 50);
@@ -510,7 +490,7 @@ public final class PromiseTest {
   }
 
   private static int blameOfTheSame() {
-    CairnShells x = cairn(3);
+    CairnShells x = Edges.cairn(3);
     x.same(0, 2);
     x.hearth(0, 10, 20);
     x.hearth(2, 30, 40);
@@ -518,7 +498,7 @@ public final class PromiseTest {
   }
 
   private static void promise15Narrows() {
-    CairnShells x = pile(3);
+    CairnShells x = Edges.pile(3);
     Due.is("narrows(1, 100)", 9999 + 9899 + 100, () -> x.narrows(1, 100));
     Due.is("narrows(1, 0)", 9999 + 9999, () -> x.narrows(1, 0));
     Due.is("narrows(1, 9999)", 9999 + 9999, () -> x.narrows(1, 9999));
@@ -535,18 +515,18 @@ public final class PromiseTest {
     Due.is("narrows(0, 300) less than 0", -200, () -> x.narrows(0, 300));
     Due.is("narrows: told(0, 0) as before", 400, () -> x.told(0, 0));
     Due.is("narrows: count(3) as before", 1, () -> x.count(3));
-    Due.refusal("narrows(0, 10000)", ARGUMENT, () -> x.narrows(0, 10000));
-    Due.refusal("narrows(3, 0)", INDEX, () -> x.narrows(3, 0));
-    Due.refusal("narrows(3, 10000)", INDEX, () -> x.narrows(3, 10000));
+    Due.refusal("narrows(0, 10000)", Edges.ARGUMENT, () -> x.narrows(0, 10000));
+    Due.refusal("narrows(3, 0)", Edges.INDEX, () -> x.narrows(3, 0));
+    Due.refusal("narrows(3, 10000)", Edges.INDEX, () -> x.narrows(3, 10000));
     for (int outside : OUTSIDE) {
-      Due.refusal("narrows(" + outside + ", 0)", INDEX, () -> x.narrows(outside, 0));
-      Due.refusal("narrows(0, " + outside + ")", ARGUMENT, () -> x.narrows(0, outside));
+      Due.refusal("narrows(" + outside + ", 0)", Edges.INDEX, () -> x.narrows(outside, 0));
+      Due.refusal("narrows(0, " + outside + ")", Edges.ARGUMENT, () -> x.narrows(0, outside));
     }
   }
 
   /** 2 above 1 above 0; a layer counts only if it is not doubtful, neither now nor then. */
   private static void promise15NarrowsAndDoubt() {
-    CairnShells x = pile(3);
+    CairnShells x = Edges.pile(3);
     x.hearth(0, 500, 600);
     x.hearth(2, 550, 700);
     // 0: 500 to 600, 1: 500 to 700, 2: 550 to 700; with a hearth of 450 in 1: 0: 500 to 450 and
@@ -562,7 +542,7 @@ public final class PromiseTest {
   }
 
   private static void promise16Tells() {
-    CairnShells x = cairn(6);
+    CairnShells x = Edges.cairn(6);
     x.above(1, 0);
     x.above(3, 2);
     x.same(1, 4);
@@ -576,23 +556,23 @@ public final class PromiseTest {
     Due.is("tells(1, 4) the same", -1, () -> x.tells(1, 4));
     Due.is("tells(5, 5)", -1, () -> x.tells(5, 5));
     Due.is("tells: count(4) as before", 3, () -> x.count(4));
-    Due.refusal("tells(6, 0)", INDEX, () -> x.tells(6, 0));
-    Due.refusal("tells(0, 6)", INDEX, () -> x.tells(0, 6));
+    Due.refusal("tells(6, 0)", Edges.INDEX, () -> x.tells(6, 0));
+    Due.refusal("tells(0, 6)", Edges.INDEX, () -> x.tells(0, 6));
     for (int outside : OUTSIDE) {
-      Due.refusal("tells(" + outside + ", 0)", INDEX, () -> x.tells(outside, 0));
-      Due.refusal("tells(0, " + outside + ")", INDEX, () -> x.tells(0, outside));
+      Due.refusal("tells(" + outside + ", 0)", Edges.INDEX, () -> x.tells(outside, 0));
+      Due.refusal("tells(0, " + outside + ")", Edges.INDEX, () -> x.tells(0, outside));
     }
   }
 
   private static void promise17Mean() {
     Due.is("mean() without any", 0.0, () -> new CairnShells().mean());
-    CairnShells x = cairn(3);
+    CairnShells x = Edges.cairn(3);
     Due.is("mean() of the phase 0", 0.0, x::mean);
     x.above(1, 0);
     Due.is("mean() of 0, 1, 0", 1.0 / 3.0, x::mean);
     x.above(2, 1);
     Due.is("mean() of 0, 1, 2", 1.0, x::mean);
-    Due.is("mean() of 14 in a pile", 6.5, () -> pile(14).mean());
+    Due.is("mean() of 14 in a pile", 6.5, () -> Edges.pile(14).mean());
   }
 
   private static void promise18Digest() {
@@ -601,8 +581,8 @@ public final class PromiseTest {
         1, 1, 0, 0, 0, 1, 0,
         0,
         0, 9999, 0, 0, 0, 0, 1, -1, 0, 0, 0, 0, 0, 0);
-    Due.is("digest() of one", one, () -> cairn(1).digest());
-    CairnShells x = cairn(4);
+    Due.is("digest() of one", one, () -> Edges.cairn(1).digest());
+    CairnShells x = Edges.cairn(4);
     x.above(0, 2);
     x.above(2, 1);
     x.same(2, 3);
@@ -634,7 +614,7 @@ public final class PromiseTest {
 
   /** Eight layers with something of everything. */
   private static CairnShells fullCairn() {
-    CairnShells x = pile(5);
+    CairnShells x = Edges.pile(5);
     x.find();
     x.find();
     x.find();
@@ -653,25 +633,25 @@ public final class PromiseTest {
     long before = x.digest();
     int[] strange = {-1, 8, 14, 40, 10000, Integer.MAX_VALUE, Integer.MIN_VALUE};
     for (int outside : strange) {
-      Due.refusal("above", INDEX, () -> x.above(0, outside));
-      Due.refusal("above", INDEX, () -> x.above(outside, 0));
-      Due.refusal("same", INDEX, () -> x.same(7, outside));
-      Due.refusal("same", INDEX, () -> x.same(outside, 7));
-      Due.refusal("sift", INDEX, () -> x.sift(outside, 0, 1));
-      Due.refusal("sift", INDEX, () -> x.sift(0, outside, 1));
-      Due.refusal("hearth", INDEX, () -> x.hearth(outside, 1, 2));
-      Due.refusal("clear", INDEX, () -> x.clear(outside));
+      Due.refusal("above", Edges.INDEX, () -> x.above(0, outside));
+      Due.refusal("above", Edges.INDEX, () -> x.above(outside, 0));
+      Due.refusal("same", Edges.INDEX, () -> x.same(7, outside));
+      Due.refusal("same", Edges.INDEX, () -> x.same(outside, 7));
+      Due.refusal("sift", Edges.INDEX, () -> x.sift(outside, 0, 1));
+      Due.refusal("sift", Edges.INDEX, () -> x.sift(0, outside, 1));
+      Due.refusal("hearth", Edges.INDEX, () -> x.hearth(outside, 1, 2));
+      Due.refusal("clear", Edges.INDEX, () -> x.clear(outside));
     }
-    Due.refusal("sift", ARGUMENT, () -> x.sift(0, 0, 100));
-    Due.refusal("hearth", ARGUMENT, () -> x.hearth(0, 2, 1));
-    Due.refusal("hearth", ARGUMENT, () -> x.hearth(1, 5, 10000));
-    Due.refusal("clear", STATE, () -> x.clear(0));
-    Due.refusal("above", STATE, () -> x.above(0, 6));
-    Due.refusal("same", STATE, () -> x.same(0, 6));
+    Due.refusal("sift", Edges.ARGUMENT, () -> x.sift(0, 0, 100));
+    Due.refusal("hearth", Edges.ARGUMENT, () -> x.hearth(0, 2, 1));
+    Due.refusal("hearth", Edges.ARGUMENT, () -> x.hearth(1, 5, 10000));
+    Due.refusal("clear", Edges.STATE, () -> x.clear(0));
+    Due.refusal("above", Edges.STATE, () -> x.above(0, 6));
+    Due.refusal("same", Edges.STATE, () -> x.same(0, 6));
     Due.is("refusals: digest()", before, x::digest);
-    CairnShells full = pile(14);
+    CairnShells full = Edges.pile(14);
     long whole = full.digest();
-    Due.refusal("find", STATE, full::find);
+    Due.refusal("find", Edges.STATE, full::find);
     Due.is("refused find: digest()", whole, full::digest);
   }
 
